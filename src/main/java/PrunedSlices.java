@@ -548,12 +548,17 @@ public final class PrunedSlices {
             return NONE;
         }
         // The numbers of rows change only just behind a row's key: other keys are never better.
+        int amount = table.rows.amountAt(slice);
         int best = low + 1;
+        int least = unevenness(slice, best, amount);
         for (int row = 0; row < table.rows.came; row++) {
             int key = table.rows.keyOf(row) + 1;
-            if (table.rows.placeOf(row) == slice && key > low && key < high
-                    && splitsBetter(slice, key, best)) {
-                best = key;
+            if (table.rows.placeOf(row) == slice && key > low && key < high) {
+                int uneven = unevenness(slice, key, amount);
+                if (uneven < least || uneven == least && key < best) {
+                    best = key;
+                    least = uneven;
+                }
             }
         }
         return best;
@@ -601,8 +606,11 @@ public final class PrunedSlices {
 
     /** Whether every stray finds room when its turn comes; earlier turns free and fill places. */
     private boolean straysFit() {
-        for (int place = 0; place < PLACES; place++) {
-            amounts.write(place, table.rows.amountAt(place));
+        amounts.clear();
+        for (int row = 0; row < table.rows.came; row++) {
+            // A row that is gone has no place here: Cells takes no number outside.
+            int place = table.rows.placeOf(row);
+            amounts.write(place, amounts.at(place) + 1);
         }
         for (int row = 0; row < table.rows.came; row++) {
             if (table.isStray(row)) {
@@ -618,15 +626,10 @@ public final class PrunedSlices {
         return true;
     }
 
-    private boolean splitsBetter(int slice, int key, int best) {
-        int uneven = unevenness(slice, key);
-        int least = unevenness(slice, best);
-        return uneven < least || uneven == least && key < best;
-    }
-
-    private int unevenness(int slice, int key) {
+    /** By how much the rows with lower keys and the others of a slice's amount differ. */
+    private int unevenness(int slice, int key, int amount) {
         int lower = table.rows.amountWithKeys(slice, 0, key);
-        return Math.abs(table.rows.amountAt(slice) - 2 * lower);
+        return Math.abs(amount - 2 * lower);
     }
 
     // ---- parts of the questions
@@ -738,6 +741,7 @@ public final class PrunedSlices {
             return index >= 0 && index < cells.length ? cells[index] : 0;
         }
 
+        /** Writes the number at an index; outside nothing. */
         void write(int index, int number) {
             if (index >= 0 && index < cells.length) {
                 cells[index] = number;

@@ -247,7 +247,7 @@ public final class ModelTest {
                 due("clearText()", model.clearText(), mine.clearText());
             }
         }
-        int many = oneIn(2) ? pending.length() : 1 + random.nextInt(pending.length());
+        int many = oneIn(4) ? 1 + random.nextInt(pending.length()) : pending.length();
         for (int i = 0; i < many; i++) {
             char sign = pending.charAt(i);
             due("type((char) " + (int) sign + ")", model.type(sign), mine.type(sign));
