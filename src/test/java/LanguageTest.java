@@ -80,6 +80,10 @@ public final class LanguageTest {
             membersAreFew(check, one, names);
         }
         membersAreFew(check, PrunedSlices.class, new TreeSet<>());
+        for (Method method : PrunedSlices.class.getDeclaredMethods()) {
+            boolean clashes = Modifier.isPrivate(method.getModifiers()) && names.contains(method.getName());
+            check.due(method + " has no name of the face", 0, clashes ? 1 : 0);
+        }
     }
 
     private static void membersAreFew(Check check, Class<?> one, Set<String> taken) {
