@@ -3,11 +3,22 @@ final class Check {
     private static final int MOST_PRINTED = 40;
 
     private final String name;
+    private final int mostPrinted;
     private int all;
     private int wrong;
 
     Check(String name) {
+        this(name, MOST_PRINTED);
+    }
+
+    private Check(String name, int mostPrinted) {
         this.name = name;
+        this.mostPrinted = mostPrinted;
+    }
+
+    /** One that prints nothing. */
+    static Check quiet() {
+        return new Check("quiet", 0);
     }
 
     void due(String call, long want, long got) {
@@ -22,7 +33,7 @@ final class Check {
         all++;
         if (!want.equals(got)) {
             wrong++;
-            if (wrong <= MOST_PRINTED) {
+            if (wrong <= mostPrinted) {
                 System.out.println(name + ": " + call + " answered " + got + ", due is " + want);
             }
         }
